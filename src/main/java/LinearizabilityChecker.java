@@ -47,7 +47,6 @@ public final class LinearizabilityChecker {
     private static final int HIGHEST_CHARACTER = 126;
     private static final int HIGHEST_VALUE = 99;
     private static final int HIGHEST_COUNT = 999;
-    private static final int WORD_BITS = 64;
     private static final int RESULT_OFFSET = 1000;
     private static final int SYNTAX_ERROR = -1000;
     private static final int COMMAND_ERROR = -2000;
@@ -67,9 +66,9 @@ public final class LinearizabilityChecker {
     public LinearizabilityChecker() {
         current = new Recording();
         saved = new Recording();
-        search = new Search();
+        search = new Search(current);
         text = new TextBuffer();
-        parser = new Parser();
+        parser = new Parser(text);
         hasSnapshot = false;
     }
 
@@ -272,13 +271,13 @@ public final class LinearizabilityChecker {
         if (!current.objects.has(object)) {
             return NO_SUCH_OBJECT;
         }
-        search.prepare(current, current.history.events, object);
+        search.prepare(current.history.events, object);
         search.keepRealTimeOrder();
         return truth(search.findsOne());
     }
 
     public int isSequentiallyConsistent() {
-        prepareWholeHistory();
+        search.prepare(current.history.events, ABSENT);
         search.keepThreadOrder();
         return truth(search.findsOne());
     }
@@ -402,7 +401,7 @@ public final class LinearizabilityChecker {
     }
 
     public int parseText() {
-        boolean valid = parser.reads(text);
+        boolean valid = parser.readsAll();
         text.empty();
         if (!valid) {
             return SYNTAX_ERROR - parser.position;
@@ -509,12 +508,12 @@ public final class LinearizabilityChecker {
     }
 
     private void prepareWholeHistory() {
-        search.prepare(current, current.history.events, ABSENT);
+        search.prepare(current.history.events, ABSENT);
         search.keepRealTimeOrder();
     }
 
     private boolean isPrefixLinearizable(int length) {
-        search.prepare(current, length, ABSENT);
+        search.prepare(length, ABSENT);
         search.keepRealTimeOrder();
         return search.findsOne();
     }
@@ -883,16 +882,16 @@ public final class LinearizabilityChecker {
         private final int[] slots = new int[MAX_OPERATIONS];
         private int head;
         private int tail;
-        /** A bit for each element of a set, 0 to 63 in the low word. */
-        private long lowElements;
-        private long highElements;
+        /** Which integers are in a set. */
+        private final boolean[] elements = new boolean[HIGHEST_VALUE + 1];
 
         void start(int initial) {
             value = initial;
             head = 0;
             tail = 0;
-            lowElements = 0;
-            highElements = 0;
+            for (int element = 0; element <= HIGHEST_VALUE; element++) {
+                elements[element] = false;
+            }
         }
 
         int perform(int kind, int first, int second) {
@@ -914,7 +913,7 @@ public final class LinearizabilityChecker {
                 case REMOVE:
                     return truth(changesElement(first, false));
                 case CONTAINS:
-                    return truth(holds(first));
+                    return truth(elements[first]);
                 default:
                     return value;
             }
@@ -958,30 +957,21 @@ public final class LinearizabilityChecker {
             return slots[head - 1];
         }
 
-        private boolean holds(int element) {
-            long word = element < WORD_BITS ? lowElements : highElements;
-            return (word >> element & 1) == 1;
-        }
-
         /** Puts the element in or out, and returns whether that changed the set. */
         private boolean changesElement(int element, boolean in) {
-            if (holds(element) == in) {
+            if (elements[element] == in) {
                 return false;
             }
-            // A shift of a long takes the number modulo 64.
-            if (element < WORD_BITS) {
-                lowElements ^= 1L << element;
-            } else {
-                highElements ^= 1L << element;
-            }
+            elements[element] = in;
             return true;
         }
     }
 
     /** Tries sequences of operations. A set of operations is an int with a bit for each of them. */
     private static final class Search {
+        private final ObjectTable objects;
+        private final History history;
         private final SharedState[] states = new SharedState[MAX_OBJECTS];
-        private History history;
         /** The operations that a sequence may contain. */
         private int allowed;
         /** The operations that a sequence must contain. */
@@ -1000,15 +990,16 @@ public final class LinearizabilityChecker {
         private int watchedResult;
         private final boolean[] reached = new boolean[2 * HIGHEST_COUNT + 1];
 
-        Search() {
+        Search(Recording recording) {
+            objects = recording.objects;
+            history = recording.history;
             for (int object = 0; object < MAX_OBJECTS; object++) {
                 states[object] = new SharedState();
             }
         }
 
-        /** Takes the first events of the recording, and of these one object's alone unless it is ABSENT. */
-        void prepare(Recording recording, int length, int object) {
-            history = recording.history;
+        /** Takes the first events of the history, of one object alone unless it is ABSENT. */
+        void prepare(int length, int object) {
             allowed = 0;
             required = 0;
             watched = ABSENT;
@@ -1023,8 +1014,8 @@ public final class LinearizabilityChecker {
                 }
             }
             compared = required;
-            for (int started = 0; started < recording.objects.count; started++) {
-                states[started].start(recording.objects.initials[started]);
+            for (int started = 0; started < objects.count; started++) {
+                states[started].start(objects.initials[started]);
             }
         }
 
@@ -1033,7 +1024,7 @@ public final class LinearizabilityChecker {
                 before[operation] = 0;
                 for (int earlier = 0; earlier < operation; earlier++) {
                     if (history.isBefore(earlier, operation)) {
-                        before[operation] |= allowed & 1 << earlier;
+                        before[operation] |= allowed & (1 << earlier);
                     }
                 }
             }
@@ -1044,7 +1035,7 @@ public final class LinearizabilityChecker {
                 before[operation] = 0;
                 for (int earlier = 0; earlier < operation; earlier++) {
                     if (history.threads[earlier] == history.threads[operation]) {
-                        before[operation] |= allowed & 1 << earlier;
+                        before[operation] |= allowed & (1 << earlier);
                     }
                 }
             }
@@ -1101,12 +1092,18 @@ public final class LinearizabilityChecker {
             int used = 0;
             for (int position = 0; position < order.size; position++) {
                 int operation = order.operations[position];
-                if (!mayFollow(operation, used) || !agrees(operation, perform(operation))) {
+                if (!mayFollow(operation, used) || !agrees(operation, resultOfNext(operation))) {
                     return position;
                 }
                 used |= 1 << operation;
             }
             return ABSENT;
+        }
+
+        private int resultOfNext(int operation) {
+            SharedState state = states[history.objects[operation]];
+            return state.perform(history.kinds[operation], history.firstArguments[operation],
+                history.secondArguments[operation]);
         }
 
         /**
@@ -1130,22 +1127,18 @@ public final class LinearizabilityChecker {
 
         private void tryNext(int operation, int used, int length) {
             SharedState state = states[history.objects[operation]];
+            int kind = history.kinds[operation];
+            int first = history.firstArguments[operation];
             int oldValue = state.value;
-            int result = perform(operation);
+            int result = state.perform(kind, first, history.secondArguments[operation]);
             if (operation == watched) {
                 watchedResult = result;
             }
             if (agrees(operation, result)) {
                 sequence[length] = operation;
-                extend(this, used | 1 << operation, length + 1);
+                extend(this, used | (1 << operation), length + 1);
             }
-            state.takeBack(history.kinds[operation], history.firstArguments[operation], result, oldValue);
-        }
-
-        private int perform(int operation) {
-            SharedState state = states[history.objects[operation]];
-            return state.perform(history.kinds[operation], history.firstArguments[operation],
-                history.secondArguments[operation]);
+            state.takeBack(kind, first, result, oldValue);
         }
 
         private void noteFound(int length) {
@@ -1162,11 +1155,11 @@ public final class LinearizabilityChecker {
 
         private boolean mayFollow(int operation, int used) {
             int left = allowed & ~used;
-            return (left & 1 << operation) != 0 && (before[operation] & ~used) == 0;
+            return (left & (1 << operation)) != 0 && (before[operation] & ~used) == 0;
         }
 
         private boolean agrees(int operation, int result) {
-            return (compared & 1 << operation) == 0 || expected[operation] == result;
+            return (compared & (1 << operation)) == 0 || expected[operation] == result;
         }
     }
 
@@ -1196,14 +1189,17 @@ public final class LinearizabilityChecker {
         private final int[] kinds = new int[MAX_COMMANDS];
         private final int[] firstNumbers = new int[MAX_COMMANDS];
         private final int[] secondNumbers = new int[MAX_COMMANDS];
-        private TextBuffer text;
+        private final TextBuffer text;
         /** The next character to read; after a failure, the syntax error position. */
         private int position;
         private boolean failed;
 
+        Parser(TextBuffer text) {
+            this.text = text;
+        }
+
         /** Returns whether the text is valid. */
-        boolean reads(TextBuffer newText) {
-            text = newText;
+        boolean readsAll() {
             commands = 0;
             position = 0;
             failed = false;
