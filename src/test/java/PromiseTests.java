@@ -832,6 +832,30 @@ public final class PromiseTests {
         due("33 two objects", z.isLinearizable(), 1);
         full(z, DEQUEUE, 1, 0, 0, 7);
         due("33 of the other object", z.isLinearizable(), 0);
+        takenBack();
+    }
+
+    /** The smallest sequences fail at their ends, after each kind of operation has changed its object. */
+    private static void takenBack() {
+        for (int kind = READ; kind <= CONTAINS; kind++) {
+            LinearizabilityChecker x = withAllObjects();
+            int object = fittingObject(kind);
+            full(x, INSERT, 3, 3, 5, 1);
+            full(x, ENQUEUE, 3, 2, 5, 0);
+            invoke(x, kind, 0, object, kind == COMPARE_AND_SET ? 0 : 5, 7);
+            x.invokeRead(1, 0);
+            x.invokeGet(2, 1);
+            due("36 kind " + kind + " beside two that change nothing", x.countLinearizations(), 16);
+            x.respond(1, 0);
+            x.respond(2, 0);
+            x.invokeContains(1, 3, 5);
+            x.respond(1, 1);
+            x.invokeDequeue(2, 2);
+            x.respond(2, 5);
+            due("33 kind " + kind + " may be left out", x.isLinearizable(), 1);
+            due("38 kind " + kind + " begins with the insert", x.firstLinearizationAt(0), 0);
+            due("41 kind " + kind, x.countResponses(0), 1);
+        }
     }
 
     // Promise 34
@@ -930,9 +954,9 @@ public final class PromiseTests {
         due("38 MIN", x.firstLinearizationAt(Integer.MIN_VALUE), NONE);
         due("38 MAX", x.firstLinearizationAt(Integer.MAX_VALUE), NONE);
         x.respond(0, 0);
-        due("37 both completed", x.firstLinearizationLength(), 2);
+        due("38 the write second, asked first", x.firstLinearizationAt(1), 0);
         due("38 the read first", x.firstLinearizationAt(0), 1);
-        due("38 the write second", x.firstLinearizationAt(1), 0);
+        due("37 both completed", x.firstLinearizationLength(), 2);
         full(x, READ, 2, 0, 0, 0);
         due("37 not linearizable", x.firstLinearizationLength(), NONE);
         due("38 not linearizable", x.firstLinearizationAt(0), NONE);
@@ -1398,7 +1422,15 @@ public final class PromiseTests {
         x.reset();
         x.createSet();
         x.createQueue();
+        x.crash(0);
         x.invokeDequeue(2, 1);
+        x.respond(2, 50);
+        x.invokeInsert(3, 0, 50);
+        x.crash(2);
+        x.respond(3, 1);
+        x.crash(1);
+        x.appendToOrder(0);
+        x.appendToOrder(1);
         due("52 restored", x.restoreSnapshot(), 4);
         due("52 objects", x.objectCount(), 1);
         due("52 type", x.typeOf(0), 0);
@@ -1423,6 +1455,12 @@ public final class PromiseTests {
         due("52 and again", x.restoreSnapshot(), 4);
         due("52 undo after it", x.undo(), 3);
         due("52 the crash is undone", x.crash(3), 3);
+        x.undo();
+        due("52 an invocation is undone", x.undo(), 2);
+        due("52 its operation is gone", x.operationCount(), 1);
+        due("52 a response is undone", x.undo(), 1);
+        due("52 the thread can respond again", x.respond(0, 0), 0);
+        due("52 the most pending", x.maxPending(), 1);
     }
 
     // The examples of the document

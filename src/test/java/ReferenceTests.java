@@ -15,7 +15,7 @@ import java.util.regex.Pattern;
  */
 public final class ReferenceTests {
     private static final int RUNS = 2500;
-    /** The document promises nothing of later calls. */
+    /** The document promises nothing about the calls behind these. */
     private static final int CALLS = 512;
     private static int wrong = 0;
 
@@ -716,7 +716,7 @@ public final class ReferenceTests {
                 due("appendCharacter('" + character + "')", program.appendCharacter(character),
                     model.appendCharacter(character));
             }
-            // More than the order of a run's histories needs is undone again by the calls that follow.
+            // What makes the history longer than the model can search is undone again.
             if (chance(90)) {
                 due("parseText()", program.parseText(), model.parseText());
                 while (model.operations().size() > operations) {
