@@ -15,7 +15,7 @@ import java.util.Set;
  * Plays the runs of src/test/boundaries.txt, which hold each sentence of the document to its word. Beside
  * the answers that stand there, it looks at what no answer shows alone: after a refused call and after
  * the whole run, the checker answers like one that never got the refused calls and the questions. And it
- * fails if a sentence of the document stands in no run.
+ * fails if a sentence of the document is quoted nowhere.
  */
 public final class BoundaryTests {
     private static final Path RUNS = Path.of("src/test/boundaries.txt");
@@ -133,7 +133,7 @@ public final class BoundaryTests {
             for (Map.Entry<String, List<String>> section : document.entrySet()) {
                 for (String sentence : section.getValue()) {
                     if (!quoted.contains(section.getKey() + ": " + sentence)) {
-                        report("no run for \"" + sentence + "\" of " + section.getKey());
+                        report("no quote of \"" + sentence + "\" of " + section.getKey());
                     }
                 }
             }
