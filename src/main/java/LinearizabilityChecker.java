@@ -1301,7 +1301,7 @@ public final class LinearizabilityChecker {
         }
 
         private void take(char character) {
-            if (failed || !isNext(character)) {
+            if (failed || !isAt(position, character)) {
                 failed = true;
                 return;
             }
